@@ -902,16 +902,25 @@ public final class PramAndSteps {
         private void weigh(int kind, int gone, boolean down) {
             stair.lookAt(stair.stepBehind(gone, down), down);
             for (int manner = 0; manner < MANNERS; manner++) {
-                int byBump = kind == BY_RESTS ? 0 : at(stair.bumps, manner);
-                put(costs, manner, kind == BY_BEATS ? Stair.beatsOf(manner) : byBump);
+                put(costs, manner, costOf(kind, manner));
+            }
+        }
+
+        private int costOf(int kind, int manner) {
+            switch (kind) {
+                case BY_BEATS: return Stair.beatsOf(manner);
+                case BY_BUMPS:
+                case BY_GREATEST: return at(stair.bumps, manner);
+                default: return 0;
             }
         }
 
         private int costOfRest(int kind) {
-            if (kind == BY_BEATS) {
-                return town.value(REST_BEATS);
+            switch (kind) {
+                case BY_BEATS: return town.value(REST_BEATS);
+                case BY_RESTS: return 1;
+                default: return 0;
             }
-            return kind == BY_RESTS ? 1 : 0;
         }
 
         private static int joined(int kind, int one, int other) {
