@@ -61,7 +61,7 @@ public final class AloneTwoEdgesTest {
             "laid(" + TWO + "k0,15,3;a5,50;) asleep(true)=54", "laid(" + TWO + "k0,15,2;a5,50;) asleep(true)=NONE", "laid(" + TWO + "k0,14,99;a5,50;) asleep(true)=NONE");
         EDGES.edge(21, "ASLEEP. NONE.", "laid(s1,20;k0,0,99;) asleep(false)=NONE asleep(true)=NONE", "laid(s1,20;k0,99,0;) asleep(false)=NONE asleep(true)=NONE",
             "laid(s1,20;k0,1,1;) asleep(false)=1 asleep(true)=NONE", "laid(s1,20;k0,2,1;) asleep(true)=1",
-            "laid(" + TWO + "k0,99,99;a1,50;) asleep(false)=NONE", "laid(" + TWELVE + "a1,99;) asleep(false)=1101 asleep(true)=NONE",
+            "laid(" + TWO + "k0,99,99;a99,50;) asleep(false)=2 asleep(true)=2", "laid(" + TWO + "k0,99,99;a1,50;) asleep(false)=NONE", "laid(" + TWELVE + "a1,99;) asleep(false)=1101 asleep(true)=NONE",
             "laid(" + TWO + "k0,19,99;) go(2)=1 stands(5)=1 asleep(false)=2 asleep(true)=4");
         EDGES.edge(21, "wakes by a BUMP above S (0 to 99), or by BUMPS that are together above Z times 10 (0 to 99)",
             "laid(" + "s20,10;".repeat(12) + "p40,40,99;k40,40,48;a10,3;) asleep(false)=93", "laid(" + "s20,10;".repeat(12) + "p40,40,99;k40,40,47;a10,3;) asleep(false)=NONE",

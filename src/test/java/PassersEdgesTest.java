@@ -65,7 +65,7 @@ public final class PassersEdgesTest {
     }
 
     private static void rush() {
-        EDGES.edge(28, "RUSH: the HOUR in which the chance of a minute is greatest, the first.", "rush(false)=0 rush(true)=0", "laid(s1,10;n23,1;) rush(false)=23 rush(true)=23",
+        EDGES.edge(28, "RUSH: the HOUR in which the chance of a minute is greatest, the first.", "rush(false)=0 rush(true)=0", "laid(s1,10;n23,1;) rush(false)=23 rush(true)=23", "laid(s1,10;n1,1;) rush(false)=1 rush(true)=1",
             "laid(s1,10;n0,1;n23,1;) rush(false)=0 rush(true)=0", "laid(s1,10;n5,1;n3,2;n7,1;n9,2;) rush(false)=5 rush(true)=3",
             "laid(s1,10;n22,2;n23,2;n21,1;) rush(true)=22", "laid(s1,10;q0,0;n5,9;) rush(false)=0 rush(true)=0", "laid(s1,10;q1,0;n4,3;n5,5;n6,2;n7,1;) rush(false)=5");
     }

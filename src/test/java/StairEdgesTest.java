@@ -178,7 +178,8 @@ public final class StairEdgesTest {
 
     private static void tell() {
         String nineteen = "tell(0) tell(1) tell(2) tell(3) ".repeat(4) + "tell(0) tell(1) tell(2)=19 ";
-        EDGES.edge(17, "A told row (20 at most) of MANNERS and RESTS (3)", nineteen + "tell(3)=20 tell(3)=FULL tell(0)=FULL tell(2)=FULL count(5)=20");
+        EDGES.edge(17, "A told row (20 at most) of MANNERS and RESTS (3)", nineteen + "tell(3)=20 tell(3)=FULL tell(0)=FULL tell(2)=FULL count(5)=20",
+            TWELVE + "tell(0) tell(3) ".repeat(7) + "tell(0) tell(0) tell(0) tell(0) tell(0) tell(0)=20 judge()=19 tell(3)=FULL judge()=19");
         EDGES.edge(17, "A MANNER (0 to 2), a REST (3) more in the told row: how many.", "tell(0)=1 tell(1)=2 tell(2)=3 tell(3)=4 count(5)=4");
         EDGES.edge(17, "BAD; FULL.", "tell(-1)=BAD tell(4)=BAD tell(MIN)=BAD tell(MAX)=BAD count(5)=0", "tell(1)=1 tell(4)=BAD tell(-1)=BAD tell(3)=2",
             nineteen + "tell(3)=20 tell(4)=BAD tell(3)=FULL tell(-1)=BAD tell(0)=FULL noRow()=20 tell(0)=1");

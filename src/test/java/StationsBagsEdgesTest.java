@@ -20,7 +20,7 @@ public final class StationsBagsEdgesTest {
 
     private static void minutes() {
         EDGES.edge(31, "MINUTES from STATION a to b: the fewest by LINES (0: the same); none.",
-            ROW + "travel(0,0,0)=0 travel(6,6,0)=0 travel(0,6,0)=6 travel(6,0,0)=6", "laid(s1,10;t1;) travel(0,0,0)=0", "laid(s1,10;t1;t1;) travel(0,1,0)=NONE travel(1,0,0)=NONE travel(1,1,0)=0",
+            ROW + "travel(0,0,0)=0 travel(6,6,0)=0 travel(0,6,0)=6 travel(6,0,0)=6", "laid(s1,10;t1;) travel(0,0,0)=0", "laid(s1,10;t1;t1;t1;e0,1,3;e0,2,4;) travel(1,2,0)=7 travel(2,1,0)=7", "laid(s1,10;t1;t1;) travel(0,1,0)=NONE travel(1,0,0)=NONE travel(1,1,0)=0",
             "laid(s1,10;" + "t1;".repeat(7) + "e6,5,60;e5,4,60;e4,3,60;e3,2,60;e2,1,60;e1,0,60;) travel(0,6,0)=360 travel(6,0,0)=360",
             PART + "travel(0,1,0)=4 travel(0,2,0)=6 travel(2,0,0)=6 travel(3,0,0)=NONE travel(2,3,0)=NONE travel(3,3,0)=0");
     }

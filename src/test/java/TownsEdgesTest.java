@@ -51,7 +51,7 @@ public final class TownsEdgesTest {
             full + "write(31)=BAD write(32)=FULL write(126)=FULL write(127)=BAD write(59)=FULL");
         EDGES.edge(2, "A TEXT is letters (200 at most)",
             "text(" + "b1;".repeat(66) + ") write(98)=199 write(49)=200 write(59)=FULL count(8)=200 fault()=198 lay()=NO",
-            "text(" + "b1;".repeat(62) + "s10,10;s11,10) write(59)=200 fault()=NONE lay()=2 write(59)=FULL lay()=2 step(1,0)=11",
+            "text(" + "b1;".repeat(62) + "s10,10;s11,10) write(59)=200 fault()=NONE lay()=2 write(98)=FULL write(49)=FULL fault()=NONE lay()=2 step(1,0)=11",
             full + "wipe()=200 count(8)=0 write(115)=1");
     }
 
@@ -60,7 +60,7 @@ public final class TownsEdgesTest {
             "wipe()=0 count(8)=0 fault()=NONE",
             "write(115)=1 wipe()=1 wipe()=0 write(115)=1",
             "text(" + "b1;".repeat(66) + "b1) wipe()=200 wipe()=0 count(8)=0",
-            "text(s1,10) wipe()=5 write(59)=1 fault()=0",
+            "text(s1,10) wipe()=5 write(59)=1 fault()=0", "text(s1,10;) wipe()=6 text(s1,10) fault()=0 lay()=NO", "text(s1,10;s2,11;) wipe()=12 text(s1,10;s2,11) fault()=6",
             "laid(s1,10;s2,11;) wipe()=12 count(8)=0 fault()=NONE lay()=NO count(0)=2 step(1,0)=2 step(1,1)=11",
             BUSY + "wipe()=67 count(5)=2 count(6)=2 count(7)=1 stands(0)=2 pram(3)=11 lay()=NO");
     }
@@ -83,7 +83,7 @@ public final class TownsEdgesTest {
 
     private static void formOfItems() {
         items("numbers (one or two figures)", "", "b0; b9; b00; b09; b10; s01,10; k00,00,00; p03,01,01;",
-            "b; b001; b000; b010; b100; b-1; b+1; b1.; bb; s,10; s1,; s,; s001,10; s1,010; s1,100; k,0,0; k0,,0; k0,0,; k0,0,100;");
+            "b; b;; b:; b/; b<; b@; bA; b1:; b1/; s;,10; s:,10; s1,:; b001; b000; b010; b100; b-1; b+1; b1.; bb; s,10; s1,; s,; s001,10; s1,010; s1,100; k,0,0; k0,,0; k0,0,; k0,0,100;");
         items("parted by , and a ; behind the last one", "", "s1,10; p3,1,1; b1;",
             "s1.10; s1;10; s1,,10; s,1,10; s110; s1:10; s1/10; s1,10, s1,10,; s1,10: s1,10. b1, b1,; p3,1;1; p3;1,1; k1,2,3,");
         items("each a letter, then numbers", "", "s1,10; p3,1,1; b1; k1,1,1; a1,1; h1,0; n0,0; q0,0; m1; t1;",
@@ -144,14 +144,14 @@ public final class TownsEdgesTest {
 
     private static void stationsToldAhead() {
         items("a LINE between STATIONS I and J (told ahead, unlike)", "t1;t2;", "e0,1,5; e1,0,5;",
-            "e0,0,5; e1,1,5; e0,2,5; e2,0,5; e1,2,5; e2,1,5; e2,2,5; e2,3,5; e99,0,5; e0,99,5; e7,8,5;");
+            "e0,0,5; e1,1,5; e0,2,5; e2,0,5; e1,2,5; e2,1,5; e2,2,5; e2,3,5; e3,0,5; e6,0,5; e0,3,5; e0,6,5; e99,0,5; e0,99,5; e7,8,5;");
         EDGES.edge(4, "(told ahead, unlike)", "text(e0,1,5;) fault()=0", "text(e0,1,5;t1;t2;) fault()=0",
             "text(t1;e0,1,5;t2;) fault()=3", "text(t1;e1,0,5;t2;) fault()=3", "text(t1;e0,0,5;) fault()=3",
             "text(" + "t1;".repeat(7) + "e6,0,5;e0,6,5;e5,6,5;) fault()=NONE",
             "text(" + "t1;".repeat(7) + "e7,0,5;) fault()=21", "text(" + "t1;".repeat(7) + "e0,7,5;) fault()=21",
             "text(" + "t1;".repeat(6) + "e6,0,5;t1;) fault()=18");
         EDGES.edge(4, "iI a LIFT at STATION I (told ahead; the same again as well)", "text(i0;) fault()=0", "text(i0;t1;) fault()=0",
-            "text(t1;i0;) fault()=NONE", "text(t1;i1;) fault()=3", "text(t1;i1;t1;) fault()=3", "text(t1;i99;) fault()=3",
+            "text(t1;i0;) fault()=NONE", "text(t1;i1;) fault()=3", "text(t1;i1;t1;) fault()=3", "text(t1;i2;) fault()=3", "text(t1;i6;) fault()=3", "text(i6;) fault()=0", "text(t1;i99;) fault()=3",
             "text(t1;i0;i0;i0;s1,10;) fault()=NONE lay()=1 count(4)=1 station(0,1)=1",
             "text(" + "t1;".repeat(7) + "i6;i6;) fault()=NONE", "text(" + "t1;".repeat(7) + "i7;) fault()=21",
             "text(" + "t1;".repeat(6) + "i6;) fault()=18", "text(t1;i;) fault()=3", "text(t1;i0,0;) fault()=3");
@@ -181,7 +181,8 @@ public final class TownsEdgesTest {
             BUSY + "lay()=3 undo()=NO", BUSY + "lay()=3 back()=NO", BUSY + "lay()=3 noRow()=0", BUSY + "lay()=3 judge()=NONE",
             BUSY + "lay()=3 pram(3)=9 station(0,1)=0 station(1,1)=1 count(4)=1",
             BUSY + "wipe() text(s7,10;) lay()=1 count(1)=0 count(2)=0 count(3)=0 count(4)=0 passers(4)=0 pram(3)=0 pram(7)=40 pram(11)=9 "
-                + "stands(2)=40 step(1,0)=BAD station(0,0)=BAD helper(0,0)=BAD");
+                + "stands(2)=40 step(1,0)=BAD station(0,0)=BAD helper(0,0)=BAD",
+            "laid(s1,10;t0;t0;e0,1,5;) free()=1 wipe() text(s1,10;t0;t0;) lay()=1 count(3)=0 travel(0,1,0)=NONE free()=0");
     }
 
     private static void step() {
@@ -211,6 +212,8 @@ public final class TownsEdgesTest {
     }
 
     private static void pramWithout() {
+        EDGES.edge(7, "ITEMS one behind the other", "laid(m43;q41,42;a38,39;k35,36,37;b34;p31,32,33;s1,10;) " + prams(31, 32, 33, 34, 35, 36, 37, 38, 39, 41, 42, 43, 101),
+            "laid(s1,10;p31,32,33;b34;k35,36,37;a38,39;q41,42;m43;) " + prams(31, 32, 33, 34, 35, 36, 37, 38, 39, 41, 42, 43, 101));
         EDGES.edge(7, "(20, 20, 30 without; the last one)", "laid(s1,10;) pram(0)=20 pram(1)=20 pram(2)=30",
             "laid(p3,1,1;s1,10;p40,60,99;) pram(0)=40 pram(1)=60 pram(2)=99", "laid(p40,60,99;s1,10;p3,1,1;) pram(0)=3 pram(1)=1 pram(2)=1");
         EDGES.edge(7, "(0 to 40; 0 without; the last one)", "laid(s1,10;) pram(3)=0", "laid(b40;s1,10;b0;) pram(3)=0", "laid(b0;s1,10;b40;) pram(3)=40",
